@@ -15,7 +15,7 @@ public final class BowingBridges {
     private static final int BRIDGE_TEXT = 0, BOAT_TEXT = 1, TEXTS = 2;
     private static final int BRIDGE_BYTES = 31, BOAT_BYTES = 63;
 
-    private static final int LIKES = 0, SNUBS = 1;
+    private static final int LIKES = 0, SNUBS = 1, WEIGHS = 2;
 
     // The rows that CARGO may be, from the one that is liked best on.
     private static final int CARGO_ROWS = 28;
@@ -756,9 +756,9 @@ public final class BowingBridges {
 
         private static int kindAt(Text text, int place) {
             switch (text.from(place, 'l')) {
-                case 0: return 0;
-                case 'n' - 'l': return 1;
-                case 'm' - 'l': return 2;
+                case 0: return LIKES;
+                case 'n' - 'l': return SNUBS;
+                case 'm' - 'l': return WEIGHS;
                 default: return NONE;
             }
         }

@@ -90,6 +90,11 @@ public final class PromisesTest {
     due(3, "wipe(0) again", x.wipe(0), 0);
     due(3, "fault of a wiped text", x.fault(0), -1);
     due(3, "the other text stands", x.count(3), 63);
+    BowingBridges z = cut("la1", "a0");
+    due(3, "wipe(1)", z.wipe(1), 2);
+    due(3, "fault(1)", z.fault(1), -1);
+    due(3, "no boats", z.count(1), 0);
+    due(3, "at(0, 0)", z.at(0, 0), -2);
     due(4, "undo(-1)", x.undo(-1), -2);
     due(4, "undo(2)", x.undo(2), -2);
     due(4, "undo(0)", x.undo(0), -3);
@@ -403,6 +408,9 @@ public final class PromisesTest {
     BowingBridges y = cut("la1", "0");
     due(18, "the last start", y.sail(0, 0), 9);
     due(18, "it waits less", y.sail(0, 1), 91);
+    BowingBridges z = cut("nf1", "5");
+    due(18, "of like ones the least", z.sail(0, 0), 0);
+    due(18, "how much", z.sail(0, 1), 0);
   }
 
   private static void awayIs(String bridges, String boats, int which, int many) {
@@ -523,6 +531,10 @@ public final class PromisesTest {
       x.sham(0, 0);
     }
     chanceIs(x, 5, 0, 99, 4080608415L, 4294967296L);
+    x.wipe(0);
+    type(x, 0, "la8");
+    chanceIs(x, 8, 0, 99, 1, 256);
+    due(25, "all shams stand behind it", x.lifts(0, 0), 1);
     chanceIs(x, 16, 0, 99, 1, 1);
     due(25, "believed(-1, ..)", x.believed(-1, 0, 0, 0), BAD_LONG);
     due(25, "believed(17, ..)", x.believed(17, 0, 0, 0), BAD_LONG);
@@ -559,6 +571,7 @@ public final class PromisesTest {
     x.wipe(0);
     type(x, 0, "lb1");
     due(26, "seed -1 is b", x.loads(-1, 1, 0, 0), 1);
+    due(26, "six lots", x.loads(-1, 6, 0, 0), 1);
     due(26, "n = -1", x.loads(0, -1, 0, 0), -2);
     due(26, "n = 7", x.loads(0, 7, 0, 0), -2);
     due(26, "no such boat", x.loads(0, 0, 1, 0), -2);
@@ -717,5 +730,41 @@ public final class PromisesTest {
     due(34, "a sham is", x.digest() == h ? 1 : 0, 0);
     x.back();
     due(34, "behind back()", x.digest(), h);
+    BowingBridges y = cut("la1;nb1;mc2;la2;lb1", "ab0;c1;aac3;bcd0;9");
+    y.sham(1, 0);
+    y.sham(3, 1);
+    y.seen(9, 0, 2);
+    due(34, "digest() of five bridges and boats", y.digest(), digestOf(y, 5, 5));
+  }
+
+  private static long hash;
+
+  private static void mix(long... values) {
+    for (long v : values) {
+      hash = 31 * hash + v;
+    }
+  }
+
+  private static long digestOf(BowingBridges x, int bridges, int boats) {
+    hash = 17;
+    for (int what = 0; what < 8; what++) {
+      mix(x.count(what));
+    }
+    mix(x.fault(0), x.fault(1));
+    for (int g = 0; g < bridges; g++) {
+      mix(x.bridge(g, 0), x.bridge(g, 1), x.bridge(g, 2), x.liked(g, 0), x.liked(g, 1), x.ask(g, 5));
+      for (int b = 0; b < boats; b++) {
+        mix(x.lifts(g, b), x.passes(g, b, 0), x.passes(g, b, 1));
+      }
+    }
+    for (int b = 0; b < boats; b++) {
+      for (int what = 0; what < 7; what++) {
+        mix(x.boat(b, what));
+      }
+      mix(x.at(5, b), x.at(30, b), x.waits(b), x.cargo(b, -1), x.cargo(b, 0), x.sail(b, 0), x.sail(b, 1), x.under(b));
+      mix(x.believed(5, b, 20, 0), x.believed(5, b, 20, 1), x.loads(7, 4, b, 0), x.loads(7, 4, b, 1));
+    }
+    mix(x.through(9), x.first(0), x.first(1), x.away(0), x.away(1));
+    return hash;
   }
 }
