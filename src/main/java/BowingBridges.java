@@ -150,7 +150,7 @@ public final class BowingBridges {
         if (sheet.lost) {
             return find(NULL);
         }
-        shams.clear();
+        int before = shams.size;
         for (int i = 0; i + 1 < sheet.size && !shams.isFull(); i += 2) {
             if (!Shams.mayBe(sheet.items[i], sheet.items[i + 1])) {
                 break;
@@ -158,7 +158,7 @@ public final class BowingBridges {
             shams.append(sheet.items[i], sheet.items[i + 1]);
         }
         resail();
-        return shams.size;
+        return shams.size - before;
     }
 
     // ---- steps
@@ -876,11 +876,6 @@ public final class BowingBridges {
                 size--;
                 carried[boat[size]][mark[size]]--;
             }
-        }
-
-        void clear() {
-            size = 0;
-            carryAll();
         }
 
         void carryAll() {

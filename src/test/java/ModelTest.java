@@ -434,13 +434,11 @@ public final class ModelTest {
       if (sheets[s] == null) {
         return find(1);
       }
-      shamCount = 0;
-      for (int i = 0; i < sheets[s].length / 2; i++) {
-        if (sham(sheets[s][2 * i], sheets[s][2 * i + 1]) < 0) {
-          break;
-        }
+      int came = 0;
+      while (came < sheets[s].length / 2 && sham(sheets[s][2 * came], sheets[s][2 * came + 1]) >= 0) {
+        came++;
       }
-      return shamCount;
+      return came;
     }
 
     int lifts(int g, int b) {

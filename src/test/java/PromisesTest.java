@@ -235,20 +235,43 @@ public final class PromisesTest {
     due(10, "a refusal changes nothing", x.count(4), 1);
     lay(x, 0, 0, 1, 0, 7, 5, 3);
     due(10, "an item over is not whole", x.read(0), 2);
-    due(10, "they are in place of those before", x.count(4), 2);
-    due(10, "lifts(0, 0)", x.lifts(0, 0), 0);
+    due(10, "those before stand", x.count(4), 3);
+    due(10, "lifts(0, 0)", x.lifts(0, 0), 1);
     due(10, "lifts(0, 1)", x.lifts(0, 1), 1);
+    due(9, "the last of the sheet is undone first", x.back(), 2);
+    due(9, "back()", x.back(), 1);
+    due(9, "lifts(0, 1)", x.lifts(0, 1), 0);
+    due(9, "lifts(0, 0)", x.lifts(0, 0), 1);
     lay(x, 1, 2, 1, 0, 8, 0, 0, 0);
     due(10, "no such boat ends it", x.read(1), 1);
     lay(x, 1, 2, 0, 0, 1, 6, 0, 0);
     due(10, "no such mark ends it", x.read(1), 1);
     lay(x, 1, 1, 0, 0, -1, 0, 0, 0);
     due(10, "below 0 ends it", x.read(1), 1);
-    x.sheet(3, 0, 60);
-    due(10, "eight at most", x.read(3), 8);
+    due(10, "count(4)", x.count(4), 4);
     x.sheet(3, 0, 1);
     due(10, "no whole one", x.read(3), 0);
-    due(10, "count(4)", x.count(4), 0);
+    due(10, "count(4)", x.count(4), 4);
+    x.sheet(3, 0, 60);
+    due(10, "eight at most, with those before", x.read(3), 4);
+    due(10, "count(4)", x.count(4), 8);
+    due(10, "none if there is no room", x.read(3), 0);
+    due(10, "count(4)", x.count(4), 8);
+    x = cut("la1", "0;0");
+    x.sheet(3, 0, 60);
+    due(10, "eight at most", x.read(3), 8);
+    readingAndBelieving();
+  }
+
+  /** What believed() worked out before a reading is worked out anew behind it. */
+  private static void readingAndBelieving() {
+    BowingBridges x = cut("la2", "0");
+    x.sham(0, 0);
+    due(25, "one is too few", x.believed(8, 0, 0, 0), 0);
+    lay(x, 0, 0, 0, 0);
+    due(10, "one more", x.read(0), 1);
+    due(10, "both, by a quarter: above", x.believed(8, 0, 0, 0), 1);
+    due(10, "both, by a quarter: below", x.believed(8, 0, 0, 1), 4);
   }
 
   private static void lifting() {
@@ -472,6 +495,17 @@ public final class PromisesTest {
     due(23, "no such bridge: never", x.under(0), 0);
     x.forget();
     seenEdges(x);
+    underAtEveryBridge();
+  }
+
+  /** A mark more is carried at odd bridges too, as a sham is not. */
+  private static void underAtEveryBridge() {
+    BowingBridges x = cut("la1;la1", "0");
+    x.seen(9, 0, 2);
+    due(23, "an a brings it through both", x.under(0), 1);
+    x.forget();
+    x.seen(9, 0, 1);
+    due(23, "nothing brings it to the second alone", x.under(0), 0);
   }
 
   private static void seenEdges(BowingBridges x) {
