@@ -1551,13 +1551,12 @@ public final class BoundariesTest {
     digest("something of each kind", BoundariesTest::rich);
     digest("all that is full", BoundariesTest::full);
     digest("texts with a FAULT", BoundariesTest::faulty);
-    digest("boats that go on late", () -> late("me2;mf2;nd1;nb1;nd1;nb1;mf3;nd1",
+    digest("one SHAM", () -> shammed("la1", "0", 1, 0, 0));
+    digest("boats that go on in STEP 30", () -> cut("me2;mf2;nd1;nb1;nd1;nb1;mf3;nd1",
         "dece9;db9;bcbce9;7;bdbbff3;fde9;bfeeab9;fc9"));
-    digest("boats that go on later", () -> late("me2;mf2;nd1;nb1;nc1;nd1;mf2;nd1",
+    digest("boats that go on in STEP 31", () -> cut("me2;mf2;nd1;nb1;nc1;nd1;mf2;nd1",
         "dece9;daeac9;cecb9;bfd9;accbe9;fde9;bfeeab9;f5"));
-    digest("boats that go on in STEP 20", () -> late("mb2;lf1;me2;nb2;ld1;ne1;mf1;mb1",
-        "dedad9;dab9;ebce9;ca9;9;bcdac9;fb9;eef2"));
-    digest("chances", () -> late("la1;nf1;lb1;nf9;mc1", "0;b1;a9;abc3"));
+    digest("boats that are THROUGH by SHAMS about STEP 20", BoundariesTest::late);
     for (int many = 1; many <= 4; many++) {
       String few = "la" + many + ";nf1;lb" + many;
       String other = "lc" + many + ";nf1;ld" + many + ";nf9;le" + many + ";nf9;lf" + many;
@@ -1572,15 +1571,10 @@ public final class BoundariesTest {
     digest("no BOATS", () -> cut("la1;mb2", ""));
   }
 
-  /** With shams that tell. */
-  private static BowingBridges late(String bridges, String boats) {
-    BowingBridges x = cut(bridges, boats);
-    x.sham(0, 0);
-    x.sham(0, 1);
-    x.sham(1, 5);
-    x.sham(1, 0);
-    x.sham(3, 5);
-    x.seen(30, 0, x.at(30, 0));
+  private static BowingBridges late() {
+    BowingBridges x = cut("nd1;mf1;mf2;nb1;nd1;ne2;mf2;na2", "dedee9;d9;bbaebb9;c9;fcfc9;9;fbffc9;fe9");
+    x.sham(2, 5);
+    x.sham(4, 3);
     return x;
   }
 
