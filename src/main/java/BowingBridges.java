@@ -40,6 +40,10 @@ public final class BowingBridges {
 
     private static final int NULL = 1, INDEX = 2, CAST = 3, STORE = 4, SIZE = 5;
 
+    // Written out, as the library that LANGUAGE.md leaves has functions of Integer and Long, not their constants.
+    private static final int LEAST_INT = -2147483648;
+    private static final long LEAST_LONG = -9223372036854775808L;
+
     private final Text[] texts = new Text[TEXTS];
     private final Bridges bridges = new Bridges();
     private final Boats boats = new Boats();
@@ -314,7 +318,7 @@ public final class BowingBridges {
 
     public long believed(int c, int boat, int step, int what) {
         if (!isWithin(c, SIXTEENTHS + 1) || !isBoat(boat) || !isWithin(step, STEPS) || !isWithin(what, 2)) {
-            return Long.MIN_VALUE - BAD;
+            return LEAST_LONG - BAD;
         }
         fillBeliefs();
         long above = beliefs.above(c, boat, step);
@@ -373,12 +377,12 @@ public final class BowingBridges {
 
     public int get(int s, int form, int i) {
         if (!isWithin(s, SHEETS) || !isWithin(form, FORMS)) {
-            return Integer.MIN_VALUE;
+            return LEAST_INT;
         }
         int wrong = itemFinding(sheets[s], form, i);
         if (wrong != 0) {
             finding = wrong;
-            return Integer.MIN_VALUE;
+            return LEAST_INT;
         }
         return sheets[s].items[i];
     }
